@@ -56,17 +56,16 @@ public final class BaselineGrid {
     private static final int MOST_TEXT_BLOCKS = 20;
 
     private final Page page = new Page();
-    private final Setting now = new Setting();
-    private final Setting trial = new Setting();
+    private final Layout now = new Layout();
+    private final Layout trial = new Layout();
     private final History history = new History();
     private final int[] snapshot = new int[STATE_CELLS];
     private boolean hasSnapshot = false;
     private final Text text = new Text();
-    private final BlockReader reader = new BlockReader(text);
 
     /** Creates empty columns. */
     public BaselineGrid() {
-        now.setPage(page, page.settingOf(STEP));
+        now.layOut(page, page.settingOf(STEP));
     }
 
     // ---- settings, blocks
@@ -85,7 +84,7 @@ public final class BaselineGrid {
         }
         history.record(page);
         page.changeSetting(what, value);
-        setAgain();
+        layOutAgain();
         return previous;
     }
 
@@ -106,7 +105,7 @@ public final class BaselineGrid {
         }
         history.record(page);
         page.appendParagraph(column, lines, size, leading, snapped);
-        setAgain();
+        layOutAgain();
         return number;
     }
 
@@ -124,7 +123,7 @@ public final class BaselineGrid {
         }
         history.record(page);
         page.appendLineless(column, picture ? PICTURE : SPACE, height);
-        setAgain();
+        layOutAgain();
         return number;
     }
 
@@ -133,19 +132,19 @@ public final class BaselineGrid {
         if (!isColumn(column)) {
             return UNKNOWN;
         }
-        int fault = reader.readText();
+        int fault = text.readBlocks();
         if (fault != NONE) {
             return -100 - fault;
         }
-        if (!reader.allFit()) {
+        if (!text.allFit()) {
             return BAD_VALUE;
         }
-        if (page.blocksOf(column) + reader.blocks() > MOST_BLOCKS) {
+        if (page.blocksOf(column) + text.blocks() > MOST_BLOCKS) {
             return FULL;
         }
         history.record(page);
-        page.appendRows(column, reader.rows(), reader.blocks());
-        setAgain();
+        page.appendRows(column, text.rows(), text.blocks());
+        layOutAgain();
         return page.blocksOf(column);
     }
 
@@ -156,7 +155,7 @@ public final class BaselineGrid {
         }
         history.record(page);
         page.takeOut(column, block);
-        setAgain();
+        layOutAgain();
         return page.blocksOf(column);
     }
 
@@ -174,7 +173,7 @@ public final class BaselineGrid {
         }
         history.record(page);
         page.changeField(column, block, SNAPPED, wanted);
-        setAgain();
+        layOutAgain();
         return now.endOf(column);
     }
 
@@ -198,7 +197,7 @@ public final class BaselineGrid {
         }
         history.record(page);
         page.moveToNext(column, from, linesThatStay(column, from));
-        setAgain();
+        layOutAgain();
         return moved;
     }
 
@@ -213,7 +212,7 @@ public final class BaselineGrid {
         if (!raiseSpaces(column, depth - now.endOf(column))) {
             return NONE;
         }
-        setAgain();
+        layOutAgain();
         return now.endOf(column);
     }
 
@@ -242,7 +241,7 @@ public final class BaselineGrid {
             return NONE;
         }
         history.giveBack(page);
-        setAgain();
+        layOutAgain();
         return history.states();
     }
 
@@ -260,7 +259,7 @@ public final class BaselineGrid {
         }
         history.record(page);
         page.copyFrom(snapshot, 0);
-        setAgain();
+        layOutAgain();
         return page.allBlocks();
     }
 
@@ -361,7 +360,7 @@ public final class BaselineGrid {
         if (step < LEAST_STEP || step > GREATEST_STEP || what < 0 || what > 2) {
             return BAD_VALUE;
         }
-        trial.setPage(page, step);
+        trial.layOut(page, step);
         switch (what) {
             case 0:
                 return trial.sumOfAllDrifts();
@@ -378,11 +377,10 @@ public final class BaselineGrid {
             return BAD_VALUE;
         }
         int best = to;
-        int least = Integer.MAX_VALUE;
+        int least = sumOfDriftsWith(to);
         // No sum is less than 0, so a smaller step can't do better than one that reached it.
-        for (int step = to; step >= from && least > 0; step--) {
-            trial.setPage(page, step);
-            int sum = trial.sumOfAllDrifts();
+        for (int step = to - 1; step >= from && least > 0; step--) {
+            int sum = sumOfDriftsWith(step);
             if (sum < least) {
                 least = sum;
                 best = step;
@@ -434,8 +432,13 @@ public final class BaselineGrid {
     }
 
     /** Every change of the state ends with this, so that what is told never rests on an older state. */
-    private void setAgain() {
-        now.setPage(page, page.settingOf(STEP));
+    private void layOutAgain() {
+        now.layOut(page, page.settingOf(STEP));
+    }
+
+    private int sumOfDriftsWith(int step) {
+        trial.layOut(page, step);
+        return trial.sumOfAllDrifts();
     }
 
     private int linesThatStay(int column, int block) {
@@ -703,7 +706,7 @@ public final class BaselineGrid {
     }
 
     /** What of a page is set, and where, on a grid with some step. */
-    private static final class Setting {
+    private static final class Layout {
         private final int[] lineCounts = new int[COLUMNS];
         private final int[] ends = new int[COLUMNS];
         private final int[] overflowing = new int[COLUMNS];
@@ -715,24 +718,23 @@ public final class BaselineGrid {
         private final int[] reached = new int[COLUMNS];
         private int height;
         private int first;
-        private int step = 1;
+        private int step;
         private boolean rounding;
         private int cursor;
 
-        // ---- setting
+        // ---- laying out
 
-        void setPage(Page page, int gridStep) {
+        void layOut(Page page, int gridStep) {
             height = page.settingOf(PAGE_HEIGHT);
             first = page.settingOf(FIRST_BASELINE);
             rounding = page.settingOf(ROUNDING) == 1;
-            // The step is a divisor everywhere here.
-            step = Math.max(gridStep, 1);
+            step = gridStep;
             for (int column = 0; column < COLUMNS; column++) {
-                setColumn(page, column);
+                layColumn(page, column);
             }
         }
 
-        private void setColumn(Page page, int column) {
+        private void layColumn(Page page, int column) {
             if (!isColumn(column)) {
                 return;
             }
@@ -742,21 +744,21 @@ public final class BaselineGrid {
             for (int block = 0; block < page.blocksOf(column) && block < MOST_BLOCKS; block++) {
                 int place = column * MOST_BLOCKS + block;
                 ahead[place] = cursor;
-                setParts[place] = overflowing[column] == NONE ? setBlock(page, column, block) : 0;
+                setParts[place] = overflowing[column] == NONE ? layBlock(page, column, block) : 0;
                 behind[place] = cursor;
             }
             ends[column] = cursor;
         }
 
         /** Sets what does not overflow of a block; returns how many parts of it that is. */
-        private int setBlock(Page page, int column, int block) {
+        private int layBlock(Page page, int column, int block) {
             int kind = page.fieldOf(column, block, KIND);
             if (kind == PARAGRAPH) {
-                return setLines(page, column, block);
+                return layLines(page, column, block);
             }
             int blockHeight = page.fieldOf(column, block, BLOCK_HEIGHT);
             if (kind == PICTURE) {
-                return setPicture(column, block, blockHeight);
+                return layPicture(column, block, blockHeight);
             }
             if (cursor != 0) {
                 cursor += blockHeight;
@@ -764,7 +766,7 @@ public final class BaselineGrid {
             return 1;
         }
 
-        private int setLines(Page page, int column, int block) {
+        private int layLines(Page page, int column, int block) {
             int lines = page.fieldOf(column, block, LINES);
             int size = page.fieldOf(column, block, SIZE);
             int leading = page.fieldOf(column, block, LEADING);
@@ -788,7 +790,7 @@ public final class BaselineGrid {
             return lines;
         }
 
-        private int setPicture(int column, int block, int blockHeight) {
+        private int layPicture(int column, int block, int blockHeight) {
             int bottom = cursor + blockHeight;
             if (bottom > height) {
                 markOverflow(column, block);
@@ -835,6 +837,7 @@ public final class BaselineGrid {
             return first > height ? 0 : (height - first) / positiveStep() + 1;
         }
 
+        /** The step as a divisor, which is looked at before it divides. */
         private int positiveStep() {
             return step > 0 ? step : 1;
         }
@@ -1057,10 +1060,17 @@ public final class BaselineGrid {
         }
     }
 
-    /** The text that is typed. */
+    /** The text that is typed, and the blocks in it: it is read from the left, and where that stops there is the fault. */
     private static final class Text {
         private final char[] characters = new char[MOST_CHARACTERS];
         private int length = 0;
+        private final int[] rows = new int[MOST_TEXT_BLOCKS * FIELDS];
+        private int blocks = 0;
+        private boolean allFit = true;
+        private int at = 0;
+        private int number = 0;
+
+        // ---- typing
 
         int length() {
             return length;
@@ -1080,35 +1090,7 @@ public final class BaselineGrid {
             length = 0;
         }
 
-        boolean hasAt(int index, char character) {
-            return isIndex(index) && characters[index] == character;
-        }
-
-        /** The value of the digit at an index, or NONE. */
-        int digitAt(int index) {
-            if (!isIndex(index) || characters[index] < '0' || characters[index] > '9') {
-                return NONE;
-            }
-            return characters[index] - '0';
-        }
-
-        private boolean isIndex(int index) {
-            return index >= 0 && index < length && index < MOST_CHARACTERS;
-        }
-    }
-
-    /** Reads the blocks of a text from the left; where it stops, there is the fault. */
-    private static final class BlockReader {
-        private final Text text;
-        private final int[] rows = new int[MOST_TEXT_BLOCKS * FIELDS];
-        private int blocks = 0;
-        private boolean allFit = true;
-        private int at = 0;
-        private int number = 0;
-
-        BlockReader(Text text) {
-            this.text = text;
-        }
+        // ---- reading
 
         /** How many blocks were read. */
         int blocks() {
@@ -1125,7 +1107,7 @@ public final class BaselineGrid {
         }
 
         /** Reads the text anew; returns its fault, or NONE. */
-        int readText() {
+        int readBlocks() {
             blocks = 0;
             allFit = true;
             at = 0;
@@ -1133,7 +1115,7 @@ public final class BaselineGrid {
                 if (!readBlock()) {
                     return at;
                 }
-                if (at >= text.length()) {
+                if (at >= length) {
                     return NONE;
                 }
                 if (!passes(';')) {
@@ -1185,8 +1167,8 @@ public final class BaselineGrid {
         /** Stops ahead of a digit that is not allowed: none of the signs that are due behind a number is a digit. */
         private boolean readNumber(int greatest) {
             number = 0;
-            for (; at < text.length(); at++) {
-                int digit = text.digitAt(at);
+            for (; at < length; at++) {
+                int digit = digitAt(at);
                 int longer = number * 10 + digit;
                 if (digit == NONE || longer == 0 || longer > greatest) {
                     break;
@@ -1197,11 +1179,23 @@ public final class BaselineGrid {
         }
 
         private boolean passes(char character) {
-            if (!text.hasAt(at, character)) {
+            if (!isIndex(at) || characters[at] != character) {
                 return false;
             }
             at++;
             return true;
+        }
+
+        /** The value of the digit at an index, or NONE. */
+        private int digitAt(int index) {
+            if (!isIndex(index) || characters[index] < '0' || characters[index] > '9') {
+                return NONE;
+            }
+            return characters[index] - '0';
+        }
+
+        private boolean isIndex(int index) {
+            return index >= 0 && index < length && index < MOST_CHARACTERS;
         }
     }
 }

@@ -94,9 +94,13 @@ public final class HistoryTest {
         Due.is("the height of the page", x.count(10), 6000);
         Due.is("column 0", x.block(0, 0, 5), 10);
         Due.is("column 3", x.block(3, 0, 5), 20);
+        Due.is("the end of column 0", x.column(0, 2), 100);
+        Due.is("baselines on the page", x.count(6), 50);
         x.put(0, false, 30);
         x.spread(0, 500);
+        Due.is("the end of column 0 then", x.column(0, 2), 130);
         Due.is("the snapshot stays as it is, restore()", x.restore(), 2);
+        Due.is("the end of column 0 again", x.column(0, 2), 100);
         Due.is("restore() of what is so already is an act", x.restore(), 2);
         Due.is("count(7)", x.count(7), 4);
         x.undo();

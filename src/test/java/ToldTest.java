@@ -4,6 +4,7 @@ public final class ToldTest {
         blocks();
         lines();
         columns();
+        linesThatWere();
         sharedBaselines();
         counts();
         linesAboveTheGrid();
@@ -103,6 +104,11 @@ public final class ToldTest {
         x.put(3, true, 499);
         x.put(3, false, 300);
         Due.is("an end below the page", x.column(3, 9), -381);
+        x.put(0, true, 500);
+        Due.is("the first block alone, not set", x.column(0, 4), 1);
+        Due.is("columns of which something overflows", x.count(4), 2);
+        Due.is("the greatest drift, of the first line", greatestDrift(60, 90), 90);
+        Due.is("the greatest drift, of the last line", greatestDrift(0, 90), 60);
         BaselineGrid y = new BaselineGrid();
         // Column 0: 100, 220, 340. Column 1: 100, 340, 580. Column 2: 340. Column 3: 100.
         y.paragraph(0, 3, 100, 120, true);
@@ -116,6 +122,36 @@ public final class ToldTest {
         Due.is("met lines of column 3", y.column(3, 8), 0);
         Due.is("lines on the grid", y.column(1, 7), 3);
         Due.is("the greatest drift on the grid", y.column(1, 6), 0);
+    }
+
+    /** Of a picture and two unsnapped lines of the size 100 behind it. */
+    private static int greatestDrift(int picture, int leading) {
+        BaselineGrid x = new BaselineGrid();
+        x.set(3, 0);
+        x.put(0, true, picture + 60);
+        x.paragraph(0, 2, 100, leading + 60, false);
+        return x.column(0, 6);
+    }
+
+    /** Lines that were set once, and are no more, count for nothing. */
+    private static void linesThatWere() {
+        BaselineGrid x = new BaselineGrid();
+        x.paragraph(0, 5, 100, 120, true);
+        x.paragraph(1, 3, 100, 120, true);
+        Due.is("met lines", x.column(0, 8), 3);
+        Due.is("the greatest end is that of column 0", x.count(5), 610);
+        x.set(0, 400);
+        x.remove(0, 0);
+        x.paragraph(0, 1, 100, 120, true);
+        Due.is("met lines then", x.column(1, 8), 1);
+        Due.is("the second line", x.line(1, 1, 3), 0);
+        Due.is("the first line", x.line(1, 0, 3), 1);
+        Due.is("the second shared baseline", x.shared(1, 0), -5);
+        x.undo();
+        x.undo();
+        x.undo();
+        Due.is("met lines again", x.column(1, 8), 3);
+        Due.is("the third shared baseline", x.shared(2, 0), 340);
     }
 
     private static void sharedBaselines() {
@@ -139,6 +175,14 @@ public final class ToldTest {
         Due.is("shared(-1, 0)", x.shared(-1, 0), -2);
         Due.is("shared(0, 2)", x.shared(0, 2), -2);
         Due.is("shared(9, -1)", x.shared(9, -1), -2);
+        BaselineGrid z = new BaselineGrid();
+        z.paragraph(0, 2, 100, 150, false);
+        z.paragraph(0, 1, 100, 100, true);
+        z.put(1, true, 150);
+        z.paragraph(1, 1, 100, 100, true);
+        // Column 0: 70, 220, 340. Column 1: 340.
+        Due.is("lines of the first column alone ahead", z.shared(0, 0), 340);
+        Due.is("lines of the first column alone ahead, columns", z.shared(0, 1), 2);
         BaselineGrid y = new BaselineGrid();
         y.paragraph(0, 40, 40, 40, false);
         y.paragraph(3, 40, 40, 40, false);
