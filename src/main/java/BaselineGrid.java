@@ -127,7 +127,7 @@ public final class BaselineGrid {
         return number;
     }
 
-    /** Puts the blocks of the text behind those of a column; returns how many there are then; UNKNOWN; the fault; BAD_VALUE; FULL. */
+    /** Puts the blocks of the text behind those of a column; returns how many it has then; errors, the fault among them. */
     public int putAll(int column) {
         if (!isColumn(column)) {
             return UNKNOWN;
@@ -1060,7 +1060,7 @@ public final class BaselineGrid {
         }
     }
 
-    /** The text that is typed, and the blocks in it: it is read from the left, and where that stops there is the fault. */
+    /** The text that is typed. Its blocks are read from the left, and where that stops there is the fault. */
     private static final class Text {
         private final char[] characters = new char[MOST_CHARACTERS];
         private int length = 0;
