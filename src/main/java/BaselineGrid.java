@@ -730,42 +730,40 @@ public final class BaselineGrid {
             rounding = page.settingOf(ROUNDING) == 1;
             step = gridStep;
             for (int column = 0; column < COLUMNS; column++) {
-                layColumn(page, column);
+                cursor = 0;
+                lineCounts[column] = 0;
+                overflowing[column] = NONE;
+                for (int block = 0; block < page.blocksOf(column); block++) {
+                    layBlock(page, column, block);
+                }
+                ends[column] = cursor;
             }
         }
 
-        private void layColumn(Page page, int column) {
-            if (!isColumn(column)) {
+        /** Sets what does not overflow of a block; behind what overflows nothing is set. */
+        private void layBlock(Page page, int column, int block) {
+            if (!isBlockPlace(column, block)) {
                 return;
             }
-            cursor = 0;
-            lineCounts[column] = 0;
-            overflowing[column] = NONE;
-            for (int block = 0; block < page.blocksOf(column) && block < MOST_BLOCKS; block++) {
-                int place = column * MOST_BLOCKS + block;
-                ahead[place] = cursor;
-                setParts[place] = overflowing[column] == NONE ? layBlock(page, column, block) : 0;
-                behind[place] = cursor;
+            int place = column * MOST_BLOCKS + block;
+            ahead[place] = cursor;
+            setParts[place] = 0;
+            if (overflowing[column] == NONE) {
+                switch (page.fieldOf(column, block, KIND)) {
+                    case PARAGRAPH:
+                        setParts[place] = layLines(page, column, block);
+                        break;
+                    case PICTURE:
+                        setParts[place] = layPicture(page, column, block);
+                        break;
+                    default:
+                        setParts[place] = laySpace(page, column, block);
+                }
             }
-            ends[column] = cursor;
+            behind[place] = cursor;
         }
 
-        /** Sets what does not overflow of a block; returns how many parts of it that is. */
-        private int layBlock(Page page, int column, int block) {
-            int kind = page.fieldOf(column, block, KIND);
-            if (kind == PARAGRAPH) {
-                return layLines(page, column, block);
-            }
-            int blockHeight = page.fieldOf(column, block, BLOCK_HEIGHT);
-            if (kind == PICTURE) {
-                return layPicture(column, block, blockHeight);
-            }
-            if (cursor != 0) {
-                cursor += blockHeight;
-            }
-            return 1;
-        }
-
+        /** Sets the lines that do not overflow; returns how many these are. */
         private int layLines(Page page, int column, int block) {
             int lines = page.fieldOf(column, block, LINES);
             int size = page.fieldOf(column, block, SIZE);
@@ -790,13 +788,20 @@ public final class BaselineGrid {
             return lines;
         }
 
-        private int layPicture(int column, int block, int blockHeight) {
-            int bottom = cursor + blockHeight;
+        private int layPicture(Page page, int column, int block) {
+            int bottom = cursor + page.fieldOf(column, block, BLOCK_HEIGHT);
             if (bottom > height) {
                 markOverflow(column, block);
                 return 0;
             }
             cursor = rounding ? nextOnGrid(bottom) : bottom;
+            return 1;
+        }
+
+        private int laySpace(Page page, int column, int block) {
+            if (cursor != 0) {
+                cursor += page.fieldOf(column, block, BLOCK_HEIGHT);
+            }
             return 1;
         }
 

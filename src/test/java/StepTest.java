@@ -4,6 +4,8 @@ public final class StepTest {
         ifSteps();
         bestSteps();
         nothingChanges();
+        everyStepAsIfItWereSet();
+        theBestOfAnyRange();
         Due.end();
     }
 
@@ -84,5 +86,56 @@ public final class StepTest {
         Due.is("the end", x.column(0, 2), 610);
         Due.is("the second line", x.line(0, 1, 0), 220);
         Due.is("count(7)", x.count(7), 1);
+    }
+
+    /** Snapped and unsnapped lines and a picture, of which some overflow with some steps. */
+    private static BaselineGrid scene() {
+        BaselineGrid x = new BaselineGrid();
+        x.set(0, 900);
+        x.paragraph(0, 5, 100, 110, true);
+        x.put(0, true, 130);
+        x.paragraph(0, 2, 50, 60, false);
+        x.paragraph(2, 7, 90, 97, false);
+        x.paragraph(3, 3, 70, 240, true);
+        return x;
+    }
+
+    /** "Tells what another step would bring": the same as after the step is set; with the step as it is, as it is. */
+    private static void everyStepAsIfItWereSet() {
+        for (int step = 20; step <= 500; step++) {
+            BaselineGrid x = scene();
+            int[] told = {x.ifStep(step, 0), x.ifStep(step, 1), x.ifStep(step, 2)};
+            x.set(2, step);
+            int onGrid = 0;
+            for (int column = 0; column < 4; column++) {
+                onGrid += x.column(column, 7);
+            }
+            Due.is("ifStep(" + step + ", 0)", told[0], x.count(2));
+            Due.is("ifStep(" + step + ", 1)", told[1], x.count(1));
+            Due.is("ifStep(" + step + ", 2)", told[2], onGrid);
+        }
+    }
+
+    /** "the least. Returns the step, from the one to the other; of several the greatest one". */
+    private static void theBestOfAnyRange() {
+        int[] sums = new int[501];
+        for (int step = 20; step <= 500; step++) {
+            sums[step] = scene().ifStep(step, 0);
+        }
+        for (int from = 20; from <= 500; from += 3) {
+            for (int to = from; to <= 500; to += 1 + (to - from) / 2) {
+                int best = from;
+                for (int step = from; step <= to; step++) {
+                    best = sums[step] <= sums[best] ? step : best;
+                }
+                Due.is("bestStep(" + from + ", " + to + ")", scene().bestStep(from, to), best);
+            }
+        }
+        BaselineGrid x = new BaselineGrid();
+        // Every line is on the grid with every step: of all the greatest one.
+        x.set(0, 9999);
+        x.paragraph(0, 9, 100, 120, true);
+        Due.is("all steps are as good", x.bestStep(20, 500), 500);
+        Due.is("all steps to 499 are as good", x.bestStep(20, 499), 499);
     }
 }
