@@ -1,4 +1,3 @@
-import java.util.ArrayList;
 import java.util.List;
 
 /** The empty and the full column, text, history and snapshot; what a state is, and what is none of it. */
@@ -131,15 +130,20 @@ public final class EmptyAndFullTest {
     }
 
     private static void theFullColumnThatHasRoomAgain() {
-        for (int block = 0; block < 16; block++) {
-            BaselineGrid x = withBlocks(1, 16);
-            Due.is("remove " + block, x.remove(1, block), 15);
-            for (int left = 0; left < 15; left++) {
-                Due.is("block " + left + " then", x.block(1, left, 5), left < block ? left + 1 : left + 2);
+        for (int column = 0; column < 4; column++) {
+            for (int block = 0; block < 16; block++) {
+                BaselineGrid x = withBlocks(column, 16);
+                int other = (column + 1) % 4;
+                x.put(other, false, 77);
+                Due.is("remove " + block, x.remove(column, block), 15);
+                for (int left = 0; left < 15; left++) {
+                    Due.is("block " + left + " then", x.block(column, left, 5), left < block ? left + 1 : left + 2);
+                }
+                Due.is("no 16th block", x.block(column, 15, 5), UNKNOWN);
+                Due.is("put", x.put(column, true, 99), 15);
+                Due.is("the 17th block", x.put(column, true, 99), FULL);
+                Due.is("another column", x.block(other, 0, 5), 77);
             }
-            Due.is("no 16th block", x.block(1, 15, 5), UNKNOWN);
-            Due.is("put", x.put(1, true, 99), 15);
-            Due.is("the 17th block", x.put(1, true, 99), FULL);
         }
     }
 
@@ -199,22 +203,34 @@ public final class EmptyAndFullTest {
 
     /** "A state is everything but the text, the history and the snapshot." */
     private static void aStateIsTheWholeOne() {
-        List<List<Integer>> looks = new ArrayList<>();
+        for (int undone = 1; undone <= 4; undone++) {
+            BaselineGrid x = withActs(4);
+            for (int i = 1; i <= undone; i++) {
+                Due.is("undo()", x.undo(), 4 - i);
+            }
+            Due.is("as it was " + undone + " acts ago", Look.at(x).equals(Look.at(withActs(4 - undone))) ? 1 : 0, 1);
+            Due.is("not as it is", Look.at(x).equals(Look.at(withActs(4))) ? 1 : 0, 0);
+        }
+    }
+
+    /** Two acts that are forgotten if 4 more follow, and so many of these. */
+    private static BaselineGrid withActs(int acts) {
         BaselineGrid x = new BaselineGrid();
         x.paragraph(0, 3, 100, 120, true);
         x.put(2, true, 30);
-        looks.add(Look.at(x));
-        x.set(1, 77);
-        looks.add(Look.at(x));
-        x.snap(0, 0, false);
-        looks.add(Look.at(x));
-        x.remove(2, 0);
-        looks.add(Look.at(x));
-        x.put(3, false, 44);
-        for (int left = 3; left >= 0; left--) {
-            Due.is("undo()", x.undo(), left);
-            Due.is("as it was", Look.at(x).equals(looks.get(left)) ? 1 : 0, 1);
+        if (acts >= 1) {
+            x.set(1, 77);
         }
+        if (acts >= 2) {
+            x.snap(0, 0, false);
+        }
+        if (acts >= 3) {
+            x.remove(2, 0);
+        }
+        if (acts >= 4) {
+            x.put(3, false, 44);
+        }
+        return x;
     }
 
     private static void anUndoIsNoAct() {

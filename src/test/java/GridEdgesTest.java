@@ -18,7 +18,9 @@ public final class GridEdgesTest {
         thePictureAtTheEndOfThePage();
         thePictureBelowThePage();
         behindWhatOverflows();
+        columnsThatOverflow();
         theEndOfAColumn();
+        theGreatestEnd();
         leftToThePage();
         everyDrift();
         driftAboveTheFirstBaseline();
@@ -27,6 +29,7 @@ public final class GridEdgesTest {
         metByLinesThatAreSet();
         metByTheSameBaselineAlone();
         sharedByTwoOrMore();
+        sharedBehindManyOthers();
         Due.end();
     }
 
@@ -307,6 +310,22 @@ public final class GridEdgesTest {
         Due.is("the picture is not set", x.block(2, 2, 8), 0);
     }
 
+    /** "for columns of which something overflows": from none of them to all. */
+    private static void columnsThatOverflow() {
+        BaselineGrid x = page(300);
+        for (int column = 0; column < 4; column++) {
+            x.paragraph(column, 3, 100, 100, false);
+            Due.is("a line to the height in " + column, x.count(4), column);
+            Due.is("lines that are not set", x.count(3), column);
+            x.paragraph(column, 1, 40, 40, false);
+            Due.is("a line below it in " + column, x.count(4), column + 1);
+            Due.is("lines that are not set then", x.count(3), column + 1);
+        }
+        x.set(0, 340);
+        Due.is("on a page that is higher", x.count(4), 0);
+        Due.is("all lines are set", x.count(3), 0);
+    }
+
     /** "The end of a column is where the cursor is in the end." */
     private static void theEndOfAColumn() {
         BaselineGrid x = page(6000);
@@ -319,6 +338,19 @@ public final class GridEdgesTest {
         x.put(1, true, 3000);
         Due.is("two pictures", x.column(1, 2), 6000);
         Due.is("the greatest end", x.count(5), 6000);
+    }
+
+    /** "for the greatest end of a column", whichever one it is. */
+    private static void theGreatestEnd() {
+        for (int greatest = 0; greatest < 4; greatest++) {
+            BaselineGrid x = page(300);
+            for (int column = 0; column < 4; column++) {
+                x.put(column, true, column == greatest ? 200 : 199);
+            }
+            Due.is("the greatest end, of " + greatest, x.count(5), 200);
+            x.put(greatest, false, 3000);
+            Due.is("the greatest end, below the page", x.count(5), 3200);
+        }
     }
 
     /** "between its end and the height of the page (below 0 if the end is below the page)". */
@@ -451,5 +483,23 @@ public final class GridEdgesTest {
         Due.is("340 then", x.shared(2, 0) * 10 + x.shared(2, 1), 3403);
         Due.is("580 then", x.shared(3, 0) * 10 + x.shared(3, 1), 5802);
         Due.is("460 is of one column", x.shared(4, 0), -5);
+    }
+
+    /** A shared baseline behind 240 lines of each column, no two of which stand on one. */
+    private static void sharedBehindManyOthers() {
+        BaselineGrid x = page(9999);
+        for (int column = 0; column < 4; column++) {
+            x.put(column, true, 10 + 10 * column);
+            for (int paragraph = 0; paragraph < 6; paragraph++) {
+                x.paragraph(column, 40, 40, 40, false);
+            }
+            x.put(column, false, 100 - 10 * column);
+            x.paragraph(column, 1, 40, 40, false);
+        }
+        Due.is("set lines", x.count(1), 4 * 241);
+        Due.is("the only shared baseline", x.shared(0, 0), 9738);
+        Due.is("its columns", x.shared(0, 1), 4);
+        Due.is("no other one", x.shared(1, 0), -5);
+        Due.is("met lines", x.column(1, 8), 1);
     }
 }
